@@ -8,8 +8,10 @@ public final class CaskTest {
         driveWrong();
         mend();
         mendFlaw();
+        mendLastOfAll();
         mendWrong();
         breakUp();
+        breakUpFirstOfAll();
         cask();
         caskWrong();
         Check.end();
@@ -145,6 +147,21 @@ public final class CaskTest {
         Check.due("the smaller one is in", yard.stave(1, 2), 0);
     }
 
+    private static void mendLastOfAll() {
+        CaskYard yard = new CaskYard();
+        yard.addStave(100, 56);
+        for (int s = 0; s < 3; s++) {
+            yard.addStave(100, 100);
+        }
+        yard.addSort(300, 1000, 2);
+        yard.raise(0);
+        Check.due("mend", yard.mend(0, 0), 0);
+        Check.due("the last of all staves is gone", yard.stave(3, 2), -2);
+        Check.due("the one before stays", yard.stave(2, 2), 0);
+        Check.due("the first of all staves is in", yard.stave(0, 2), 0);
+        Check.due("flaws", yard.cask(0, 2), 1);
+    }
+
     private static void mendWrong() {
         CaskYard yard = Yards.casks(2, 1000, 2);
         yard.addStave(100, 100);
@@ -198,6 +215,18 @@ public final class CaskTest {
         }
     }
 
+    private static void breakUpFirstOfAll() {
+        CaskYard yard = Yards.casks(2, 1000, 2);
+        Check.due("nothing spilled", yard.breakUp(0), 0);
+        int[] places = {-2, -1, -1, 1, 1, 1};
+        for (int s = 0; s < 6; s++) {
+            Check.due("the place of " + s, yard.stave(s, 2), places[s]);
+            Check.due("the dryness of " + s, yard.stave(s, 1), s < 3 ? 70 : 100);
+        }
+        Check.due("the other cask stays", yard.cask(1, 15), 1);
+        Check.due("its staves", yard.cask(1, 1), 3);
+    }
+
     private static void cask() {
         CaskYard yard = new CaskYard();
         for (int s = 0; s < 6; s++) {
@@ -219,6 +248,14 @@ public final class CaskTest {
         Check.due("vinegar", yard.cask(0, 12), yard.cask(0, 7));
         Check.due("vinegar alone", yard.cask(0, 8) + yard.cask(0, 9) + yard.cask(0, 10) + yard.cask(0, 11), 0);
         tells("the other one", yard, 1, 1, 3, 0, 9, 0, 0, 0, 0, 0, 0, 0, 0, 0, 0, 12, 1);
+        CaskYard sorts = Yards.staves(3);
+        for (int sort = 0; sort < 6; sort++) {
+            sorts.addSort(sort < 5 ? 400 : 300, 1000, 2);
+        }
+        sorts.raise(5);
+        Check.due("its sort", sorts.cask(0, 0), 5);
+        sorts.breakUp(0);
+        Check.due("its sort, broken up", sorts.cask(0, 0), 5);
     }
 
     private static void caskWrong() {

@@ -10,17 +10,21 @@ public final class MonthTest {
         air();
         airEdge();
         airEnds();
+        airOfOneCup();
         loosening();
         passWrong();
         count();
         foresee();
         foreseeLoosening();
+        foreseeFlaws();
         foreseeWrong();
         blend();
         blendTies();
         blendCasks();
         blendRichest();
+        blendExact();
         blendWrong();
+        fullYard();
         taste();
         digest();
         Check.end();
@@ -201,6 +205,17 @@ public final class MonthTest {
         Check.due("no vinegar", yard.count(7), 0);
     }
 
+    private static void airOfOneCup() {
+        CaskYard yard = Yards.casks(1, 100, 8);
+        yard.fill(0, 0, 2);
+        yard.pass(1);
+        Check.due("one cup is left", yard.cask(0, 7), 1);
+        Check.due("it has an air month", yard.cask(0, 6), 1);
+        yard.pass(1);
+        Check.due("nothing is left", yard.cask(0, 7), 0);
+        Check.due("no air month", yard.cask(0, 6), 0);
+    }
+
     private static void loosening() {
         CaskYard yard = Yards.casks(2, 1000, 3);
         yard.breakUp(1);
@@ -316,6 +331,19 @@ public final class MonthTest {
         Check.due("not the thirteenth", yard.foresee(0, 1, 3), 30 - 8);
     }
 
+    private static void foreseeFlaws() {
+        CaskYard yard = Yards.casks(2, 1000, 2);
+        yard.drive(0, 0, 6);
+        yard.drive(0, 0, 1);
+        yard.fill(0, 0, 1000);
+        // leak 30 + 20 - 24 - 5 = 21, with 3 and the warmth 26 thousandths
+        Check.due("held", yard.foresee(0, 1, 0), 974);
+        Check.due("leak", yard.foresee(0, 1, 3), 21);
+        Check.due("leak of the other one", yard.foresee(1, 1, 3), 18);
+        yard.setWarmth(9);
+        Check.due("held, warmer", yard.foresee(0, 1, 0), 967);
+    }
+
     private static void foreseeWrong() {
         CaskYard yard = Yards.casks(2, 1000, 2);
         yard.breakUp(1);
@@ -422,6 +450,54 @@ public final class MonthTest {
         blends("a taste is at most 1000000", yard, 449999, 0, 1, 4, 400000);
         blends("of two alike the fewest tenths", yard, 450000, 0, 1, 4, 400000);
         blends("a taste is at most 1000000", yard, 450001, 0, 1, 5, 500000);
+    }
+
+    private static void blendExact() {
+        CaskYard yard = Yards.casks(2, 60000, 2);
+        Yards.crack(yard, 0);
+        yard.fill(0, 0, 60000);
+        yard.pass(1);
+        yard.fill(0, 0, 30000);
+        yard.fill(1, 0, 7);
+        // 4200 * 1000 / 30000 is 140
+        blends("exactly", yard, 0, 0, 1, 1, 14);
+        yard.rack(0, 1, 29000);
+        // 140 * 1000 / 1000 and 4060 * 1000 / 29007
+        blends("both", yard, 140, 0, 1, 1, 139);
+        blends("both", yard, 139, 0, 1, 1, 139);
+    }
+
+    /** As many staves, sorts and casks as there can be. */
+    private static void fullYard() {
+        CaskYard yard = Yards.staves(60);
+        for (int sort = 0; sort < 6; sort++) {
+            yard.addSort(500 - 20 * sort, 1000, 8);
+        }
+        for (int c = 0; c < 12; c++) {
+            yard.raise(0);
+            yard.fill(c, c % 4, 1000);
+        }
+        Check.due("no stave is left", yard.choose(0, 0), -1);
+        Check.due("lost", yard.pass(1), 12 * 5);
+        Check.due("held", yard.count(6), 12 * 995);
+        Check.due("sound", yard.count(5), 12);
+        Check.due("in the yard", yard.count(2), 0);
+        Check.due("vinegar", yard.count(7), 0);
+        Check.dueDouble("taste", yard.taste(), 70.0 / 995);
+        blends("the first ones", yard, 70, 0, 1, 1, 70);
+        int[][] tensions = new int[12][8];
+        for (int[] t : tensions) {
+            java.util.Arrays.fill(t, 3);
+        }
+        int[][] sorts = {{500, 1000, 8}, {480, 1000, 8}, {460, 1000, 8}, {440, 1000, 8}, {420, 1000, 8},
+            {400, 1000, 8}};
+        Check.due("digest", yard.digest(), Yards.digest(yard, sorts, tensions));
+        Check.due("spilled", yard.breakUp(11), 995);
+        Check.due("the first one is gone", yard.stave(55, 2), -2);
+        Check.due("the last one is in the yard", yard.stave(59, 2), -1);
+        Check.due("70 is dry", yard.choose(5, 0), 56);
+        Check.due("70 is dry", yard.choose(5, 3), 59);
+        Check.due("no fifth", yard.choose(5, 4), -1);
     }
 
     private static void blendWrong() {
