@@ -89,6 +89,14 @@ public final class MonthTest {
             Check.due("3 times 8 less its fillings", yard.cask(0, 13) - before, 3 * Math.max(0, 8 - filling));
             yard.rack(0, -1, yard.cask(0, 7));
         }
+        CaskYard seventh = Yards.casks(1, 1000, 8);
+        for (int filling = 1; filling <= 6; filling++) {
+            seventh.fill(0, 0, 1);
+            seventh.rack(0, -1, 1);
+        }
+        seventh.fill(0, 0, 199);
+        seventh.pass(1);
+        Check.due("one grain", seventh.cask(0, 13), 1);
         CaskYard little = Yards.casks(1, 1000, 8);
         little.fill(0, 0, 99);
         little.pass(1);
