@@ -25,6 +25,7 @@ public final class MonthTest {
         blendExact();
         blendWrong();
         fullYard();
+        fullYardDigest();
         taste();
         digest();
         Check.end();
@@ -476,7 +477,7 @@ public final class MonthTest {
     }
 
     /** As many staves, sorts and casks as there can be. */
-    private static void fullYard() {
+    private static CaskYard filledYard() {
         CaskYard yard = Yards.staves(60);
         for (int sort = 0; sort < 6; sort++) {
             yard.addSort(500 - 20 * sort, 1000, 8);
@@ -485,6 +486,11 @@ public final class MonthTest {
             yard.raise(0);
             yard.fill(c, c % 4, 1000);
         }
+        return yard;
+    }
+
+    private static void fullYard() {
+        CaskYard yard = filledYard();
         Check.due("no stave is left", yard.choose(0, 0), -1);
         Check.due("lost", yard.pass(1), 12 * 5);
         Check.due("held", yard.count(6), 12 * 995);
@@ -493,6 +499,17 @@ public final class MonthTest {
         Check.due("vinegar", yard.count(7), 0);
         Check.dueDouble("taste", yard.taste(), 70.0 / 995);
         blends("the first ones", yard, 70, 0, 1, 1, 70);
+        Check.due("spilled", yard.breakUp(11), 995);
+        Check.due("the first one is gone", yard.stave(55, 2), -2);
+        Check.due("the last one is in the yard", yard.stave(59, 2), -1);
+        Check.due("70 is dry", yard.choose(5, 0), 56);
+        Check.due("70 is dry", yard.choose(5, 3), 59);
+        Check.due("no fifth", yard.choose(5, 4), -1);
+    }
+
+    private static void fullYardDigest() {
+        CaskYard yard = filledYard();
+        yard.pass(1);
         int[][] tensions = new int[12][8];
         for (int[] t : tensions) {
             java.util.Arrays.fill(t, 3);
@@ -500,12 +517,6 @@ public final class MonthTest {
         int[][] sorts = {{500, 1000, 8}, {480, 1000, 8}, {460, 1000, 8}, {440, 1000, 8}, {420, 1000, 8},
             {400, 1000, 8}};
         Check.due("digest", yard.digest(), Yards.digest(yard, sorts, tensions));
-        Check.due("spilled", yard.breakUp(11), 995);
-        Check.due("the first one is gone", yard.stave(55, 2), -2);
-        Check.due("the last one is in the yard", yard.stave(59, 2), -1);
-        Check.due("70 is dry", yard.choose(5, 0), 56);
-        Check.due("70 is dry", yard.choose(5, 3), 59);
-        Check.due("no fifth", yard.choose(5, 4), -1);
     }
 
     private static void blendWrong() {

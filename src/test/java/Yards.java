@@ -36,7 +36,8 @@ final class Yards {
         for (int what = 0; what < 10; what++) {
             d = d * 31 + yard.count(what);
         }
-        for (int s = 0; s < yard.count(1); s++) {
+        int staves = yard.count(1);
+        for (int s = 0; s < staves; s++) {
             for (int what = 0; what < 3; what++) {
                 d = d * 31 + yard.stave(s, what);
             }
@@ -46,7 +47,8 @@ final class Yards {
                 d = d * 31 + x;
             }
         }
-        for (int c = 0; c < yard.count(4); c++) {
+        int casks = yard.count(4);
+        for (int c = 0; c < casks; c++) {
             for (int what = 0; what < 16; what++) {
                 d = d * 31 + yard.cask(c, what);
             }
