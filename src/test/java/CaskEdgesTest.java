@@ -284,6 +284,13 @@ public final class CaskEdgesTest {
         Check.refused(yard, "it holds one cup", Check.STATE, () -> yard.mend(0, 3));
         yard.rack(0, -1, 1);
         Check.due("it is empty again", yard.mend(0, 3), 0);
+        CaskYard lost = raised(90, 90, 90, 90);
+        Yards.crack(lost, 0);
+        lost.fill(0, 0, 1000);
+        lost.pass(1);
+        Check.due("70 grains", lost.cask(0, 13), 70);
+        Check.due("grains alone are nothing that it holds", lost.mend(0, 3), 112);
+        Check.due("they stay", lost.cask(0, 13), 70);
         CaskYard sour = raised(90, 90, 90, 90);
         sour.fill(0, 0, 100);
         sour.pass(6);

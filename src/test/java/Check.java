@@ -49,7 +49,10 @@ final class Check {
         try {
             return String.valueOf(call.run());
         } catch (RuntimeException e) {
-            return "throws." + e.getClass().getSimpleName();
+            Class<?> thrown = e.getClass();
+            dueText("thrown by the machine", thrown == ARGUMENT || thrown == STATE || thrown == INDEX ? ""
+                    : thrown.getSimpleName(), "");
+            return "throws." + thrown.getSimpleName();
         }
     }
 

@@ -430,6 +430,13 @@ public final class LiquidEdgesTest {
         Check.due("swelling stays", yard.cask(0, 4), 10);
         Check.due("no air months come over", yard.cask(1, 6), 0);
         Check.due("no swelling comes over", yard.cask(1, 4), 0);
+        yard.pass(3);
+        Check.due("air months of the other one", yard.cask(1, 6), 3);
+        yard.fill(0, 1, 900);
+        yard.rack(0, 1, 600);
+        Check.due("what comes in ends none ahead of the month", yard.cask(1, 6), 3);
+        yard.pass(1);
+        Check.due("the month does", yard.cask(1, 6), 0);
     }
 
     private static void leastAndMostWarmth() {

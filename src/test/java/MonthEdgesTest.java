@@ -25,6 +25,7 @@ public final class MonthEdgesTest {
         airEndsWhenFull();
         vinegarWithSix();
         vinegarOfEachLiquid();
+        vinegarAlone();
         vinegarAgain();
         twelfthMonth();
         twelfthMonthOfAll();
@@ -116,6 +117,7 @@ public final class MonthEdgesTest {
     private static void oakUpToTheEighthFilling() {
         Doc.says(Doc.TERMS, "times (8 less its fillings), if that is greater than 0");
         for (int fillings = 1; fillings <= 10; fillings++) {
+            Check.due("8 less " + fillings, grains(fillings, 100), Math.max(0, 8 - fillings));
             Check.due("3 times 8 less " + fillings, grains(fillings, 300), 3 * Math.max(0, 8 - fillings));
         }
         CaskYard yard = Yards.casks(1, 60000, 8);
@@ -454,6 +456,19 @@ public final class MonthEdgesTest {
             Check.due("the full one is not", yard.cask(1, 8 + liquid) > 200 ? 1 : 0, 1);
         }
         Check.due("the full one has none", yard.cask(1, 12), 0);
+    }
+
+    private static void vinegarAlone() {
+        CaskYard yard = Yards.casks(1, 1000, 8);
+        yard.fill(0, 0, 207);
+        yard.pass(6);
+        Check.due("vinegar alone", yard.cask(0, 12), 201);
+        // 14 of six months, the cups being 207 to 202 ahead of their losses
+        Check.due("grains", yard.cask(0, 13), 84);
+        yard.pass(1);
+        Check.due("vinegar takes oak, too", yard.cask(0, 13), 98);
+        Check.due("it has an air month, too", yard.cask(0, 6), 1);
+        Check.due("it gets less, too", yard.cask(0, 12), 200);
     }
 
     private static void vinegarAgain() {

@@ -104,6 +104,14 @@ public final class TellingEdgesTest {
         Check.due("4 of each in two months", yard.pass(2), 88);
         Check.due("lost in all months", yard.count(8), 143);
         Check.due("held", yard.count(6), 11 * 1000 - 143);
+        CaskYard full = Yards.staves(60);
+        full.addSort(500, 60000, 8);
+        for (int c = 0; c < 12; c++) {
+            full.raise(0);
+            full.fill(c, 0, 60000);
+        }
+        Check.due("300 of each of twelve", full.pass(1), 3600);
+        Check.dueDouble("taste of a full yard", full.taste(), 4200.0 / 59700.0);
     }
 
     private static void emptyAndFullCounts() {
@@ -124,6 +132,9 @@ public final class TellingEdgesTest {
         for (int what = 0; what < 10; what++) {
             Check.due("count(" + what + ") of a full yard", full.count(what), due[what]);
         }
+        Check.dueDouble("taste of a full yard", full.taste(), 0.0);
+        blends("of a full yard", full, 0, 0, 1, 1, 0);
+        Check.due("foresee of a full yard", full.foresee(11, 1, 0), 59700);
         for (int c = 0; c < 12; c++) {
             Check.due("spilled", full.breakUp(c), 60000);
         }
@@ -225,6 +236,8 @@ public final class TellingEdgesTest {
         Check.due("1 its vinegar", yard.foresee(0, 1, 1), 0);
         Check.due("2 its grains", yard.foresee(0, 1, 2), 14);
         Check.due("3 its leak then", yard.foresee(0, 1, 3), 18);
+        yard.setWarmth(9);
+        Check.due("with the warmth that is now", yard.foresee(0, 1, 0), 194);
     }
 
     private static void foreseeChangesNothing() {
@@ -298,21 +311,50 @@ public final class TellingEdgesTest {
         }
     }
 
+    /** Behind five months: a full cask, a flawed one with air months, one of 8 hoops that leaks, an empty one. */
+    private static CaskYard toForesee() {
+        CaskYard yard = Yards.staves(12);
+        yard.addSort(300, 1000, 3);
+        yard.addSort(300, 1001, 8);
+        for (int c = 0; c < 4; c++) {
+            yard.raise(c / 2 == 1 ? 1 : 0);
+        }
+        yard.fill(0, 0, 997);
+        yard.fill(0, 3, 3);
+        for (int n = 0; n < 4; n++) {
+            yard.drive(1, 1 + n % 2, 9);
+        }
+        yard.fill(1, 1, 520);
+        for (int n = 0; n < 12; n++) {
+            yard.drive(2, 7 - n % 4, 9);
+        }
+        yard.fill(2, 2, 1001);
+        yard.pass(5);
+        return yard;
+    }
+
     private static void foreseeAllMonths() {
+        CaskYard now = toForesee();
+        Check.due("swelling", now.cask(0, 4), 20);
+        Check.due("air months", now.cask(1, 6), 5);
+        Check.due("flaws", now.cask(1, 2), 3);
+        Check.due("flaws", now.cask(2, 2), 10);
+        int[] tells = {7, 12, 13, 14};
+        int[] order = {2, 0, 3, 1, 0, 2};
         for (int months = 1; months <= 60; months++) {
-            CaskYard yard = Yards.casks(1, 1000, 3);
-            yard.drive(0, 1, 6);
-            yard.fill(0, 0, 997);
-            yard.fill(0, 3, 3);
-            yard.pass(5);
-            int[] seen = new int[4];
-            for (int what = 0; what < 4; what++) {
-                seen[what] = yard.foresee(0, months, what);
+            CaskYard yard = toForesee();
+            int[][] seen = new int[4][4];
+            for (int n = 0; n < order.length; n++) {
+                for (int what = 0; what < 4; what++) {
+                    seen[order[n]][what] = yard.foresee(order[n], months, what);
+                }
             }
             yard.pass(months);
-            int[] tells = {7, 12, 13, 14};
-            for (int what = 0; what < 4; what++) {
-                Check.due("in " + months + " months " + what, seen[what], yard.cask(0, tells[what]));
+            for (int cask = 0; cask < 4; cask++) {
+                for (int what = 0; what < 4; what++) {
+                    Check.due("foresee(" + cask + ", " + months + ", " + what + ")", seen[cask][what],
+                            yard.cask(cask, tells[what]));
+                }
             }
         }
     }
@@ -601,6 +643,11 @@ public final class TellingEdgesTest {
         yard.raise(0);
         yard.drive(1, 1, 1);
         yard.fill(1, 3, 400);
+        Check.due("two sound casks", yard.digest(), digestOf(0, 6, 0, 2, 2, 2, 400, 0, 0, 2,
+                100, 65, 0, 100, 66, 0, 100, 67, 0, 100, 68, 1, 100, 69, 1, 100, 70, 1,
+                300, 1000, 2, 301, 2000, 3,
+                0, 3, 3, 6, 0, 0, 0, 0, 0, 0, 0, 0, 0, 0, 48, 1, 3, 3,
+                0, 3, 2, 7, 0, 1, 0, 400, 0, 0, 0, 400, 0, 0, 36, 1, 3, 4));
         yard.breakUp(0);
         Check.due("a broken cask and a sound one", yard.digest(), digestOf(0, 6, 2, 2, 2, 1, 400, 0, 0, 2,
                 100, 35, -2, 100, 36, -1, 100, 37, -1, 100, 68, 1, 100, 69, 1, 100, 70, 1,
