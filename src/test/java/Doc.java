@@ -1,23 +1,30 @@
 import java.io.IOException;
 import java.nio.charset.StandardCharsets;
+import java.nio.file.DirectoryStream;
 import java.nio.file.Files;
 import java.nio.file.Path;
 import java.util.ArrayList;
+import java.util.Arrays;
 import java.util.Comparator;
 import java.util.List;
 import java.util.regex.Matcher;
 import java.util.regex.Pattern;
 
 /**
- * The document itself. A test of an edge quotes the words that it holds the
- * class to, so that words that no test quotes, or that the document does not
- * say any more, are found. Where the document can't be read the class is tested
+ * The document itself. A test quotes the words that it holds the class to, so
+ * that words that no test quotes, or that the document does not say any more,
+ * are found. Where the document can't be read the class is tested
  * all the same, and a line tells that the quotes were not looked up.
  */
 final class Doc {
     /** What stands ahead of the promises. */
     static final int TERMS = 0;
 
+    private static final String[] NOT_TO_QUOTE = {
+        "^# CaskYard ## What it is A cooper's yard\\.", "; what later calls answer is free",
+        "## The public face", "## Terms", "## Promise \\d+: [\\w ]+?(?= [-`])", "```text",
+        "```java.*?```", "`(?:int|double|long) \\w+\\([^`]*`", "Throws `\\w+` if", "\\bor\\b"
+    };
     private static final String TEXT = read();
     private static final List<List<String>> QUOTES = new ArrayList<>();
 
@@ -46,6 +53,61 @@ final class Doc {
                 Check.dueText("what no test quotes of promise " + promise, unquoted(promise, line.group(1)), "");
             }
         }
+    }
+
+    /**
+     * Each word of the document is quoted by a test of the project, but for
+     * headings, the lines that FaceTest takes from the face, and what is free.
+     */
+    static void everyWordIsQuoted() throws IOException {
+        if (TEXT.isEmpty()) {
+            return;
+        }
+        List<List<String>> quotes = quotesOfAllTests();
+        for (int promise = 0; promise <= 19; promise++) {
+            String part = part(promise);
+            boolean[] quoted = new boolean[part.length()];
+            for (String quote : quotes.get(promise)) {
+                mark(quoted, Pattern.compile(Pattern.quote(quote)).matcher(part));
+            }
+            for (String pattern : NOT_TO_QUOTE) {
+                mark(quoted, Pattern.compile(pattern).matcher(part));
+            }
+            StringBuilder left = new StringBuilder();
+            for (int at = 0; at < quoted.length; at++) {
+                left.append(quoted[at] ? ' ' : part.charAt(at));
+            }
+            String words = left.toString().replaceAll("\\W+", " ").trim();
+            Check.dueText("what no test quotes of part " + promise, words, "");
+        }
+    }
+
+    private static void mark(boolean[] marks, Matcher matcher) {
+        while (matcher.find()) {
+            Arrays.fill(marks, matcher.start(), matcher.end(), true);
+        }
+    }
+
+    private static List<List<String>> quotesOfAllTests() throws IOException {
+        List<List<String>> quotes = new ArrayList<>();
+        for (int promise = 0; promise <= 19; promise++) {
+            quotes.add(new ArrayList<>());
+        }
+        String text = "\"(?:[^\"\\\\]|\\\\.)*\"";
+        Pattern call = Pattern.compile("Doc\\.says\\((Doc\\.TERMS|\\d+), (" + text
+                + "(?:\\s*\\+\\s*" + text + ")*)\\);");
+        try (DirectoryStream<Path> tests = Files.newDirectoryStream(
+                Path.of(System.getProperty("caskyard.tests", "src/test/java")), "*Test.java")) {
+            for (Path test : tests) {
+                Matcher matcher = call.matcher(Files.readString(test, StandardCharsets.UTF_8));
+                while (matcher.find()) {
+                    int promise = matcher.group(1).equals("Doc.TERMS") ? TERMS : Integer.parseInt(matcher.group(1));
+                    String words = matcher.group(2).replaceAll("\"\\s*\\+\\s*\"", "").replaceAll("^\"|\"$", "");
+                    quotes.get(promise).add(words);
+                }
+            }
+        }
+        return quotes;
     }
 
     private static String unquoted(int promise, String words) {
